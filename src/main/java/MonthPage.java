@@ -60,8 +60,8 @@ public final class MonthPage {
         }
         past.record(now.plan);
         int before = now.plan.rows;
+        // Where entries lie does not depend on the rows: so nothing is laid anew.
         now.plan.rows = rows;
-        now.lay();
         return before;
     }
 

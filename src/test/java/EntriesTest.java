@@ -197,6 +197,13 @@ public final class EntriesTest {
         x.undo();
         due.are("undone", entry(x, 1), 5, 6, 7, 8);
         due.are("undone", entry(x, 2), 9, 10, NONE, 1);
+        for (int n = 3; n < 24; n++) {
+            x.add(n, n, n, 0);
+        }
+        due.is("the first one of 24", x.drop(0), 23);
+        due.are("the last one then", entry(x, 22), 23, 23, 23, 0);
+        due.is("the last one", x.drop(22), 22);
+        due.are("the last one then", entry(x, 21), 22, 22, 22, 0);
     }
 
     private static void promise11Move() {
@@ -293,6 +300,10 @@ public final class EntriesTest {
         due.is("in lane 1 it is hidden on all days", x.entry(5, 6), 14);
         due.is("hidden with another on the day", x.entry(0, 6), 5);
         due.is("not on the page, so not hidden", x.entry(3, 6), 0);
+        x.setRows(3);
+        due.is("above the mark", x.entry(5, 6), 0);
+        due.is("in the row of the mark", x.entry(2, 6), 1);
+        due.is("below the mark", x.entry(1, 6), 1);
         due.is("entry(0, 8)", x.entry(0, 8), BAD);
         due.is("entry(0, -1)", x.entry(0, -1), BAD);
         due.is("entry(6, 0)", x.entry(6, 0), BAD);

@@ -130,6 +130,10 @@ public final class LaidTest {
         due.is("bar(1, 0, 0)", x.bar(1, 0, 0), BAD);
         due.is("bar(0, 99, 5)", x.bar(0, 99, 5), BAD);
         due.is("bar(0, 5, 0)", x.bar(0, 5, 0), NONE);
+        x.setPage(6, 47);
+        x.add(0, 60, NONE, 0);
+        due.is("the last one of seven weeks", x.bar(1, 6, 0), 0);
+        due.is("an eighth week", x.bar(1, 7, 0), NONE);
         due.is("bar(0, MAX, 0)", x.bar(0, Integer.MAX_VALUE, 0), NONE);
     }
 

@@ -154,6 +154,9 @@ public final class PageTest {
         due.is("short 0", x.week(0, 4), 0);
         due.is("short 1", x.week(1, 4), 3);
         due.is("short 4", x.week(4, 4), 0);
+        MonthPage y = new MonthPage();
+        y.add(3, 3, 0, 0);
+        due.is("entry 0 is short", y.week(0, 4), 1);
         x.setRows(2);
         due.is("hidden 0", x.week(0, 5), 0);
         due.is("hidden 1", x.week(1, 5), 2);

@@ -175,6 +175,10 @@ public final class WholeTest {
             x.add(n, n + n % 6, n % 4 == 1 ? n : NONE, n % 10);
             due.is("with " + (n + 1), x.digest(), digestOf(x));
         }
+        MonthPage y = new MonthPage();
+        y.add(1, 2, NONE, 0);
+        due.is("a single free day at first", y.free(2, false), 3);
+        due.is("a single free day at first", y.digest(), digestOf(y));
         long before = x.digest();
         x.type('5');
         due.is("the text counts", x.digest() == before ? 1 : 0, 0);

@@ -28,6 +28,10 @@ public final class WouldBeTest {
             x.add(5, 5, n, 0);
         }
         due.is("24 on a day", x.enough(), 24);
+        x.setPage(4, 5);
+        due.is("24 on the last day", x.enough(), 24);
+        x.setPage(5, 6);
+        due.is("24 on the first day", x.enough(), 24);
         x.setPage(6, 7);
         due.is("not on the page", x.enough(), 1);
         due.is("rows stay", x.told(3), 4);
