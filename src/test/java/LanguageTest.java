@@ -111,7 +111,9 @@ public final class LanguageTest {
         }
     }
 
-    private static void source(String text) {
+    private static void source(String whole) {
+        // A comment may tell of what the program must not do.
+        String text = whole.replaceAll("(?s)/\\*.*?\\*/", "").replaceAll("//.*", "");
         String[] words = {"throw", "throws", "try", "catch", "synchronized", "assert", "import", "package",
             "equals", "hashCode", "toString", "protected", "Exception", "System", "volatile", "native"};
         for (String word : words) {

@@ -1,3 +1,4 @@
+import java.math.BigInteger;
 import java.util.ArrayList;
 import java.util.Comparator;
 import java.util.HashMap;
@@ -48,6 +49,29 @@ final class Model {
 
     // ---- what is laid
 
+    // What was laid last is kept: the digest asks for it some thousand times.
+    private static State laidState = null;
+    private static List<Map<Integer, Bar>> laidBars = List.of();
+    private static final Map<Integer, Map<Integer, Integer>> laidRows = new HashMap<>();
+
+    private static void keep(State s) {
+        if (laidState != s) {
+            laidState = s;
+            laidBars = layBars(s);
+            laidRows.clear();
+        }
+    }
+
+    private static List<Map<Integer, Bar>> bars(State s) {
+        keep(s);
+        return laidBars;
+    }
+
+    private static Map<Integer, Integer> rows(State s, int day) {
+        keep(s);
+        return laidRows.computeIfAbsent(day, d -> layRows(s, d));
+    }
+
     /** The weeks of the page, each a list of its days. */
     private static List<List<Integer>> weeks(State s) {
         List<List<Integer>> weeks = new ArrayList<>();
@@ -61,7 +85,7 @@ final class Model {
     }
 
     /** The bars of each week, by entry. */
-    private static List<Map<Integer, Bar>> bars(State s) {
+    private static List<Map<Integer, Bar>> layBars(State s) {
         List<Map<Integer, Bar>> all = new ArrayList<>();
         for (List<Integer> days : weeks(s)) {
             Map<Integer, Bar> before = all.isEmpty() ? Map.of() : all.get(all.size() - 1);
@@ -110,7 +134,7 @@ final class Model {
     }
 
     /** The rows of the entries on a day, by entry. */
-    private static Map<Integer, Integer> rows(State s, int day) {
+    private static Map<Integer, Integer> layRows(State s, int day) {
         Map<Integer, Integer> rows = new HashMap<>();
         for (Map<Integer, Bar> week : bars(s)) {
             for (Bar b : week.values()) {
@@ -457,5 +481,35 @@ final class Model {
         }
         s = past.remove(past.size() - 1);
         return past.size();
+    }
+
+    long digest() {
+        List<Integer> values = new ArrayList<>();
+        for (int what = 0; what <= 11; what++) {
+            values.add(told(what));
+        }
+        for (int e = 0; e < s.entries.size(); e++) {
+            for (int what = 0; what <= 7; what++) {
+                values.add(entry(e, what));
+            }
+            for (int n = 0; n < 5 * weeks(s).size(); n++) {
+                values.add(bar(e, n / 5, n % 5));
+            }
+        }
+        for (int n = 0; n < 6 * weeks(s).size(); n++) {
+            values.add(week(n / 6, n % 6));
+        }
+        for (int day = s.first; day <= s.last; day++) {
+            for (int n = 0; n < 18; n++) {
+                values.add(n < 6 ? day(day, n) : shown(day, n - 6));
+            }
+        }
+        values.add(enough());
+        values.add(free(1, false));
+        BigInteger h = BigInteger.valueOf(43104);
+        for (int value : values) {
+            h = h.multiply(BigInteger.valueOf(31)).add(BigInteger.valueOf(value));
+        }
+        return h.longValue();
     }
 }

@@ -1,11 +1,14 @@
 /** Long runs of mixed calls, right and wrong ones, answered by MonthPage and by Model. */
 public final class ModelTest {
     private static final int RUNS = 400;
-    private static final int CALLS = 120;
+    private static final int STEPS = 120;
+    // An object answers 512 calls: room is left for the last step and the end.
+    private static final int MOST_CALLS = 400;
     private static final Due due = new Due();
 
     // Numbers that always come in the same order, so that a run that fails can be run again.
     private long seed = 1;
+    private int calls = 0;
     private final MonthPage x = new MonthPage();
     private final Model y = new Model();
 
@@ -16,13 +19,18 @@ public final class ModelTest {
     public static void main(String[] args) {
         for (int run = 0; run < RUNS && !due.isWrong(); run++) {
             ModelTest test = new ModelTest(run);
-            for (int call = 0; call < CALLS && !due.isWrong(); call++) {
-                test.call("run " + run + ", call " + call);
+            for (int step = 0; step < STEPS && test.calls < MOST_CALLS && !due.isWrong(); step++) {
+                test.step("run " + run + ", step " + step);
             }
             test.compareAll("run " + run + ", at its end");
         }
         readTexts();
         due.end();
+    }
+
+    private void same(String call, long got, long want) {
+        calls++;
+        due.is(call, got, want);
     }
 
     private int below(int bound) {
@@ -62,7 +70,7 @@ public final class ModelTest {
         return below(3) == 0 ? MonthPage.NONE : about(0, below(2) == 0 ? 3 : 1439);
     }
 
-    private void call(String where) {
+    private void step(String where) {
         switch (below(22)) {
             case 0: page(where); break;
             case 1: rowsOrWeekday(where); break;
@@ -70,7 +78,7 @@ public final class ModelTest {
             case 3: case 4: case 5: case 6: case 7: add(where); break;
             case 8: change(where); break;
             case 9: change(where); break;
-            case 10: due.is(where + ": undo", x.undo(), y.undo()); break;
+            case 10: same(where + ": undo", x.undo(), y.undo()); break;
             default: ask(where);
         }
     }
@@ -78,16 +86,16 @@ public final class ModelTest {
     private void page(String where) {
         int first = below(4) == 0 ? about(0, 999) : about(0, 40);
         int last = first + (below(3) == 0 ? about(0, 41) : among(10, 41));
-        due.is(where + ": setPage", x.setPage(first, last), y.setPage(first, last));
+        same(where + ": setPage", x.setPage(first, last), y.setPage(first, last));
     }
 
     private void rowsOrWeekday(String where) {
         if (below(2) == 0) {
             int rows = about(1, below(2) == 0 ? 4 : 12);
-            due.is(where + ": setRows", x.setRows(rows), y.setRows(rows));
+            same(where + ": setRows", x.setRows(rows), y.setRows(rows));
         } else {
             int weekday = about(0, 6);
-            due.is(where + ": setWeek", x.setWeek(weekday), y.setWeek(weekday));
+            same(where + ": setWeek", x.setWeek(weekday), y.setWeek(weekday));
         }
     }
 
@@ -96,30 +104,30 @@ public final class ModelTest {
         int length = below(3) == 0 ? 0 : below(2) == 0 ? below(4) : below(25);
         int time = aTime();
         int rank = about(0, below(2) == 0 ? 2 : 9);
-        due.is(where + ": add", x.add(first, first + length, time, rank), y.add(first, first + length, time, rank));
+        same(where + ": add", x.add(first, first + length, time, rank), y.add(first, first + length, time, rank));
     }
 
     private void change(String where) {
         int e = anEntry();
         int kind = below(5);
         if (kind == 0 && below(2) == 0) {
-            due.is(where + ": drop", x.drop(e), y.drop(e));
+            same(where + ": drop", x.drop(e), y.drop(e));
         } else if (kind == 1) {
             int days = below(3) == 0 ? about(-999, 999) : about(-8, 8);
-            due.is(where + ": move", x.move(e, days), y.move(e, days));
+            same(where + ": move", x.move(e, days), y.move(e, days));
         } else if (kind == 2) {
             int day = aDay();
-            due.is(where + ": stretch", x.stretch(e, day), y.stretch(e, day));
+            same(where + ": stretch", x.stretch(e, day), y.stretch(e, day));
         } else {
             int time = aTime();
             int rank = about(0, 9);
-            due.is(where + ": settle", x.settle(e, time, rank), y.settle(e, time, rank));
+            same(where + ": settle", x.settle(e, time, rank), y.settle(e, time, rank));
         }
     }
 
     private void text(String where) {
         if (below(3) == 0) {
-            due.is(where + ": clear", x.clear(), y.clear());
+            same(where + ": clear", x.clear(), y.clear());
         }
         int entries = below(4);
         for (int n = 0; n < entries; n++) {
@@ -127,14 +135,14 @@ public final class ModelTest {
         }
         if (below(4) == 0) {
             int c = about(33, 126);
-            due.is(where + ": type", x.type(c), y.type(c));
+            same(where + ": type", x.type(c), y.type(c));
         }
-        due.is(where + ": load", x.load(), y.load());
+        same(where + ": load", x.load(), y.load());
     }
 
     private void type(String where, String bytes) {
         for (char c : bytes.toCharArray()) {
-            due.is(where + ": type", x.type(c), y.type(c));
+            same(where + ": type", x.type(c), y.type(c));
         }
     }
 
@@ -159,44 +167,36 @@ public final class ModelTest {
         int day = aDay();
         int week = about(0, 7);
         switch (below(11)) {
-            case 0: int w = about(0, 5); due.is(where + ": week", x.week(week, w), y.week(week, w)); break;
-            case 1: int n = about(0, 7); due.is(where + ": entry", x.entry(e, n), y.entry(e, n)); break;
-            case 2: int b = about(0, 4); due.is(where + ": bar", x.bar(e, week, b), y.bar(e, week, b)); break;
-            case 3: int r = about(0, 11); due.is(where + ": shown", x.shown(day, r), y.shown(day, r)); break;
-            case 4: due.is(where + ": rowOf", x.rowOf(e, day), y.rowOf(e, day)); break;
-            case 5: int d = about(0, 5); due.is(where + ": day", x.day(day, d), y.day(day, d)); break;
-            case 6: due.is(where + ": enough", x.enough(), y.enough()); break;
-            case 7: int i = about(1, 12); due.is(where + ": ifRows", x.ifRows(i), y.ifRows(i)); break;
+            case 0: int w = about(0, 5); same(where + ": week", x.week(week, w), y.week(week, w)); break;
+            case 1: int n = about(0, 7); same(where + ": entry", x.entry(e, n), y.entry(e, n)); break;
+            case 2: int b = about(0, 4); same(where + ": bar", x.bar(e, week, b), y.bar(e, week, b)); break;
+            case 3: int r = about(0, 11); same(where + ": shown", x.shown(day, r), y.shown(day, r)); break;
+            case 4: same(where + ": rowOf", x.rowOf(e, day), y.rowOf(e, day)); break;
+            case 5: int d = about(0, 5); same(where + ": day", x.day(day, d), y.day(day, d)); break;
+            case 6: same(where + ": enough", x.enough(), y.enough()); break;
+            case 7: int i = about(1, 12); same(where + ": ifRows", x.ifRows(i), y.ifRows(i)); break;
             case 8: free(where); break;
-            case 9: if (below(4) == 0) { due.is(where + ": bestDay", x.bestDay(e), y.bestDay(e)); } break;
-            default: int t = about(0, 11); due.is(where + ": told", x.told(t), y.told(t));
+            case 9: if (below(4) == 0) { same(where + ": bestDay", x.bestDay(e), y.bestDay(e)); } break;
+            default: int t = about(0, 11); same(where + ": told", x.told(t), y.told(t));
         }
     }
 
     private void free(String where) {
         int days = about(1, below(2) == 0 ? 8 : 42);
-        due.is(where + ": free", x.free(days, true), y.free(days, true));
-        due.is(where + ": free", x.free(days, false), y.free(days, false));
+        same(where + ": free", x.free(days, true), y.free(days, true));
+        same(where + ": free", x.free(days, false), y.free(days, false));
     }
 
+    /** The digest tells of all that is laid; where it differs, the calls that differ are looked for. */
     private void compareAll(String where) {
         for (int what = 0; what <= 11; what++) {
-            due.is(where + ": told " + what, x.told(what), y.told(what));
+            same(where + ": told " + what, x.told(what), y.told(what));
         }
-        for (int e = 0; e < y.told(5); e++) {
-            for (int what = 0; what <= 7; what++) {
-                due.is(where + ": entry " + e + ", " + what, x.entry(e, what), y.entry(e, what));
-            }
-            for (int week = 0; week < y.told(4); week++) {
-                for (int what = 0; what <= 4; what++) {
-                    due.is(where + ": bar " + e + ", " + week, x.bar(e, week, what), y.bar(e, week, what));
-                }
-            }
-        }
-        for (int day = y.told(0); day <= y.told(1); day++) {
-            for (int row = 0; row < y.told(3); row++) {
-                due.is(where + ": shown " + day + ", " + row, x.shown(day, row), y.shown(day, row));
-            }
+        same(where + ": digest", x.digest(), y.digest());
+        for (int n = 0; n <= 8; n++) {
+            same(where + ": undo", x.undo(), y.undo());
+            same(where + ": rows then", x.told(3), y.told(3));
+            same(where + ": hidden then", x.told(9), y.told(9));
         }
     }
 

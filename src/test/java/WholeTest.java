@@ -1,3 +1,5 @@
+import java.util.function.Supplier;
+
 /** Promises 23 to 25: told, undo, digest; and the constants. */
 public final class WholeTest {
     private static final int NONE = MonthPage.NONE;
@@ -131,54 +133,83 @@ public final class WholeTest {
         due.is("states", x.told(11), states);
     }
 
-    /** The digest as the promise tells it, of an object's own answers. */
-    private static long digestOf(MonthPage x) {
-        long h = 43104;
-        for (int what = 0; what <= 11; what++) {
-            h = 31 * h + x.told(what);
+    /** Like objects, asked in turn for few calls each: one object answers 512 calls. */
+    private static final class Asked {
+        private final Supplier<MonthPage> make;
+        private MonthPage x = null;
+        private int calls = 0;
+
+        Asked(Supplier<MonthPage> make) {
+            this.make = make;
         }
-        for (int e = 0; e < x.told(5); e++) {
-            for (int what = 0; what <= 7; what++) {
-                h = 31 * h + x.entry(e, what);
+
+        MonthPage next() {
+            if (calls % 300 == 0) {
+                x = make.get();
             }
-            for (int week = 0; week < x.told(4); week++) {
-                for (int what = 0; what <= 4; what++) {
-                    h = 31 * h + x.bar(e, week, what);
-                }
-            }
+            calls++;
+            return x;
         }
-        for (int week = 0; week < x.told(4); week++) {
-            for (int what = 0; what <= 5; what++) {
-                h = 31 * h + x.week(week, what);
-            }
-        }
-        for (int day = x.told(0); day <= x.told(1); day++) {
-            for (int what = 0; what <= 5; what++) {
-                h = 31 * h + x.day(day, what);
-            }
-            for (int row = 0; row <= 11; row++) {
-                h = 31 * h + x.shown(day, row);
-            }
-        }
-        h = 31 * h + x.enough();
-        return 31 * h + x.free(1, false);
     }
 
-    private static void promise25Digest() {
+    /** The digest as the promise tells it, of an object's own answers. */
+    private static long digestOf(Supplier<MonthPage> make) {
+        Asked x = new Asked(make);
+        int weeks = x.next().told(4);
+        int entries = x.next().told(5);
+        long h = 43104;
+        for (int what = 0; what <= 11; what++) {
+            h = 31 * h + x.next().told(what);
+        }
+        for (int e = 0; e < entries; e++) {
+            for (int what = 0; what <= 7; what++) {
+                h = 31 * h + x.next().entry(e, what);
+            }
+            for (int n = 0; n < 5 * weeks; n++) {
+                h = 31 * h + x.next().bar(e, n / 5, n % 5);
+            }
+        }
+        for (int n = 0; n < 6 * weeks; n++) {
+            h = 31 * h + x.next().week(n / 6, n % 6);
+        }
+        int last = x.next().told(1);
+        for (int day = x.next().told(0); day <= last; day++) {
+            for (int n = 0; n < 18; n++) {
+                h = 31 * h + (n < 6 ? x.next().day(day, n) : x.next().shown(day, n - 6));
+            }
+        }
+        h = 31 * h + x.next().enough();
+        return 31 * h + x.next().free(1, false);
+    }
+
+    private static void digestIs(String name, Supplier<MonthPage> make) {
+        due.is(name, make.get().digest(), digestOf(make));
+    }
+
+    private static MonthPage with(int entries) {
         MonthPage x = new MonthPage();
-        due.is("new", x.digest(), digestOf(x));
-        due.is("two new ones", x.digest(), new MonthPage().digest());
         x.setPage(4, 45);
         x.setWeek(5);
         x.setRows(2);
-        for (int n = 0; n < 24; n++) {
+        for (int n = 0; n < entries; n++) {
             x.add(n, n + n % 6, n % 4 == 1 ? n : NONE, n % 10);
-            due.is("with " + (n + 1), x.digest(), digestOf(x));
         }
-        MonthPage y = new MonthPage();
-        y.add(1, 2, NONE, 0);
-        due.is("a single free day at first", y.free(2, false), 3);
-        due.is("a single free day at first", y.digest(), digestOf(y));
+        return x;
+    }
+
+    private static void promise25Digest() {
+        due.is("two new ones", new MonthPage().digest(), new MonthPage().digest());
+        digestIs("new", MonthPage::new);
+        digestIs("some", Pages::some);
+        digestIs("full", Pages::full);
+        digestIs("small", Pages::small);
+        for (int n = 0; n <= 24; n++) {
+            int entries = n;
+            digestIs("with " + n, () -> with(entries));
+        }
+        due.is("a single free day at first", Pages.one(1, 2, NONE, 0).free(2, false), 3);
+        digestIs("a single free day at first", () -> Pages.one(1, 2, NONE, 0));
+        MonthPage x = with(24);
         long before = x.digest();
         x.type('5');
         due.is("the text counts", x.digest() == before ? 1 : 0, 0);
